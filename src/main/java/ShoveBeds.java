@@ -693,7 +693,9 @@ public final class ShoveBeds {
 
         private void copyFrom(Board other) {
             lanes.copyFrom(other.lanes);
-            System.arraycopy(other.chalks, 0, chalks, 0, PLAYERS * BEDS);
+            for (int i = 0; i < chalks.length && i < other.chalks.length; i++) {
+                chalks[i] = other.chalks[i];
+            }
             nudgeCost = other.nudgeCost;
             player = other.player;
             pushes = other.pushes;
